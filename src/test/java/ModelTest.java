@@ -78,8 +78,22 @@ public final class ModelTest {
         call("digest");
     }
 
-    /** PROGRAMS, CHANGES, BUILDS, SETTINGS to begin with. */
+    /** What lies there to begin with; sometimes with two IMAGES that have unlike things under the same numbers. */
     private void lay() throws Exception {
+        if (lots.nextInt(4) == 0) {
+            call("image", 0);
+            layOnce();
+            call("image", 1);
+            call("from", 0);
+            layOnce();
+            call("image", 0);
+        } else {
+            layOnce();
+        }
+    }
+
+    /** PROGRAMS, CHANGES, BUILDS, SETTINGS. */
+    private void layOnce() throws Exception {
         int programs = 1 + lots.nextInt(3);
         for (int p = 0; p < programs; p++) {
             call("program");
@@ -109,6 +123,7 @@ public final class ModelTest {
         call("line", p, lots.nextInt(2) == 0 ? 1 : 3, 3, 3, 2);
         call("line", p, 5, 3, 4, 0);
         call("line", p, 2, 0, 0, 1);
+        if (lots.nextInt(3) == 0) call("line", p, 6, 2, to(2, 8), 0);
         if (lots.nextBoolean()) call("line", p, 6, 5, 2, 0);
         call("line", p, 6, 0, 2, 0);
         if (lots.nextBoolean()) call("line", p, 7, 99, -1, 1234);

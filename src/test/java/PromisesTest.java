@@ -522,6 +522,31 @@ public final class PromisesTest {
         y.build(0, 0);
         y.setting(0, 0, 0, 0);
         due(11, "a LEAP behind the last LINE ends it", y.plain(0, 0, 0, 0), 3);
+        FastWhy z = rows(39);
+        z.line(0, 6, 4, 0, 0);
+        z.build(0, 0);
+        z.setting(0, 0, 0, 0);
+        z.setting(1, 0, 0, 0);
+        due(11, "all forty LINES", z.plain(0, 0, 0, 0), 40);
+        due(11, "all forty LINES, again and again", z.plain(0, 0, 1, 3), 50);
+        memoryIsEmpty();
+    }
+
+    /** A cell is got, then 1 is put there: with what a run ahead left the LEAP would be taken. */
+    private static void memoryIsEmpty() {
+        FastWhy x = new FastWhy();
+        x.program();
+        x.line(0, 4, 1, 0, 0);
+        x.line(0, 0, 2, 1, 0);
+        x.line(0, 5, 2, 0, 0);
+        x.line(0, 6, 1, 5, 0);
+        x.line(0, 0, 3, 1, 0);
+        x.build(0, 0);
+        x.setting(0, 0, 0, 0);
+        for (int i = 0; i < 2; i++) {
+            due(11, "MEMORY begins with 0", x.of(x.run(0, 0, 0, 0, 0, true), 0), 5);
+            due(13, "MEMORY begins with 0", x.plain(0, 0, 0, 0), 5);
+        }
     }
 
     private static void of() {
@@ -658,12 +683,32 @@ public final class PromisesTest {
         y.setting(1000, 0, 0, 0);
         due(15, "a VOID one", y.pair(0, 0, 0, 0, 0, 0, false), 0);
         due(15, "its RUNS", y.count(5), 2);
+        voidNew();
+        FastWhy w = oldAndNew();
+        for (int i = 0; i < 198; i++) {
+            w.run(0, 0, 0, 0, 0, false);
+        }
+        due(15, "room for two", w.pair(0, 1, 0, 0, 0, 0, false), 1);
         FastWhy z = oldAndNew();
         for (int i = 0; i < 199; i++) {
             z.run(0, 0, 0, 0, 0, false);
         }
         due(15, "room for one alone", z.pair(0, 1, 0, 0, 0, 0, false), -4);
         due(15, "nothing was run", z.count(4), 199);
+    }
+
+    private static void voidNew() {
+        FastWhy x = counter();
+        x.change(0, 0, 7, 0, 0, 0);
+        x.build(0, 1);
+        x.build(0, 0);
+        x.setting(1000, 0, 0, 0);
+        for (int i = 0; i < 2; i++) {
+            due(15, "one of both is VOID", x.pair(0, 1, 0, 0, 0, 0, i == 0), 0);
+            due(15, "one of both is VOID", x.pair(1, 0, 0, 0, 0, 0, i == 0), 0);
+        }
+        due(15, "RUNS", x.count(4), 8);
+        due(15, "VOID ones", x.count(5), 4);
     }
 
     private static void difference() {
@@ -806,7 +851,7 @@ public final class PromisesTest {
 
     private static void step() {
         FastWhy x = timed(10, 12, 30, 31, 35);
-        // cuts: ahead of 1: 0 + (18+0.. about 30: 18, 0, 1, 5); of 2: 2 + 5; of 3: (2+0+18) + 4; of 4: 10 and 12, 30, 31
+        // ahead of 2: MIDDLE 11: 1 + 1, and 31: 1 + 4
         due(22, "BUILD", x.step(0, 4, 0, 0, 0, 0), 2);
         due(22, "COST", x.step(0, 4, 0, 0, 0, 1), 1 + 1 + 1 + 4);
         due(22, "COULD BE", x.step(0, 4, 0, 0, 0, 2), 4);
@@ -1049,6 +1094,7 @@ public final class PromisesTest {
         due(28, "all", x.seek(0, 0, 1000000, 1), 5);
         due(28, "nothing is kept", x.count(4), 0);
         due(28, "price", x.seek(0, 0, -1, 0), -2);
+        due(28, "nothing for 0", x.seek(0, 0, 0, 1), 0);
         due(28, "price", x.seek(0, 0, 1000001, 0), -2);
         due(28, "build", x.seek(1, 0, 0, 0), -2);
         due(28, "machine", x.seek(0, 4, 0, 0), -2);
@@ -1158,6 +1204,7 @@ public final class PromisesTest {
         rings(x, "!!5=1&b=1", 2);
         rings(x, "-!0=0-1&b=1", 2);
         rings(x, "!-1=0&b=1", 2);
+        rings(x, "!-0=1&b=1", 2);
         rings(x, "2+3*4=14&b=1", 2);
         rings(x, "20/3*3=18&b=1", 2);
         rings(x, "9-3-2=4&b=1", 2);
@@ -1300,6 +1347,45 @@ public final class PromisesTest {
         x.line(0, 6, 4, 0, 0);
         x.build(0, 0);
         due(36, "STEPS", x.plain(0, 0, 0, 0), 2);
+        twoWays();
+    }
+
+    /** Two IMAGES with unlike LINES, CHANGES, BUILDS and SETTINGS under the same numbers. */
+    private static void twoWays() {
+        FastWhy x = new FastWhy();
+        x.program();
+        x.program();
+        x.image(0);
+        x.line(0, 7, 0, 0, 0);
+        x.line(1, 7, 0, 0, 0);
+        x.change(1, 0, 0, 0, 0, 0);
+        x.build(1, 0);
+        x.build(1, 1);
+        x.setting(1, 0, 0, 0);
+        x.price(0, 7, 20);
+        x.image(1);
+        x.from(0);
+        x.line(0, 0, 1, 1, 0);
+        x.line(0, 6, 4, 3, 0);
+        x.line(0, 0, 1, 1, 0);
+        x.change(0, 0, 1, 1, 1, 1);
+        x.build(0, 1);
+        x.build(0, 0);
+        x.setting(0, 0, 0, 0);
+        x.price(0, 1, 30);
+        x.image(0);
+        for (int i = 0; i < 2; i++) {
+            x.from(1);
+            due(36, "LINES of the one", x.plain(0, 0, 0, 5), 20);
+            due(36, "a CHANGE of the one", x.plain(1, 0, 0, 5), 1);
+            due(36, "a PROGRAM of the one", x.build(1, 1), 2);
+            due(36, "a LINE of the one", x.change(0, 1, 7, 0, 0, 0), -2);
+            x.from(0);
+            due(36, "a CHANGE of the other", x.plain(0, 0, 0, 5), 32);
+            due(36, "LINES of the other", x.plain(1, 0, 0, 5), 3);
+            due(36, "a PROGRAM of the other", x.build(1, 1), -3);
+            due(36, "a LINE of the other", x.change(0, 1, 7, 0, 0, 0), 1);
+        }
     }
 
     private static void count() {
