@@ -43,6 +43,8 @@ public final class FastWhy {
             BUILD = 7, MACHINE = 8, SETTING = 9, LOT = 10, HOUR = 11, WARM = 12, OUT = 13;
     private static final int RUN_WIDE = 14;
 
+    private static final int OPEN = 0, SLOWER = 1, FASTER = 2, LIKE = 3, GIVEN_UP = 4;
+
     private final Store now = new Store();
     private final Store[] images = new Store[IMAGES];
     private final boolean[] imageThere = new boolean[IMAGES];
@@ -539,7 +541,7 @@ public final class FastWhy {
         }
     }
 
-    /** What is not looked at is written as 0, so that every kept a and c may be used as a register's number. */
+    /** What is not looked at is written as 0, so that no number out of range is ever kept in a LINE. */
     private static void writeLine(int[] into, int at, int act, int a, int b, int c) {
         if (at < 0 || at + LINE_WIDE > into.length) {
             return;
@@ -871,20 +873,20 @@ public final class FastWhy {
         int judge(Ways ways, Bag bag) {
             for (int i = 0; i < looks && lookAt[i] <= size; i++) {
                 if (isRare(ways.dealt(differences, lookAt[i], false), lookAt[i])) {
-                    return 1;
+                    return SLOWER;
                 }
                 if (isRare(ways.dealt(differences, lookAt[i], true), lookAt[i])) {
-                    return 2;
+                    return FASTER;
                 }
             }
             if (looks == 0 || size < lastLook()) {
-                return 0;
+                return OPEN;
             }
             bag.clear();
             for (int i = 0; i < lastLook(); i++) {
                 bag.add(differences[i]);
             }
-            return Math.abs(bag.middle()) <= span ? 3 : 4;
+            return Math.abs(bag.middle()) <= span ? LIKE : GIVEN_UP;
         }
 
         private boolean isRare(int odds, int pairs) {
