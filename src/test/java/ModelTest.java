@@ -56,7 +56,8 @@ public final class ModelTest {
     }
 
     private void oneRun(int seed) throws Exception {
-        lots = new Random(seed);
+        // Seeds that are near one another begin with like lots, so they are spread.
+        lots = new Random(seed * 0x9E3779B97F4A7C15L);
         fast = new FastWhy();
         model = new Model();
         told.clear();

@@ -1356,19 +1356,23 @@ public final class PromisesTest {
         x.program();
         x.program();
         x.image(0);
+        x.line(0, 6, 4, 39, 0);
         x.line(0, 7, 0, 0, 0);
+        x.line(1, 0, 0, 0, 0);
         x.line(1, 7, 0, 0, 0);
-        x.change(1, 0, 0, 0, 0, 0);
+        x.change(1, 0, 4, 0, 0, 0);
         x.build(1, 0);
         x.build(1, 1);
+        x.build(0, 0);
         x.setting(1, 0, 0, 0);
+        x.price(0, 0, 7);
         x.price(0, 7, 20);
         x.image(1);
         x.from(0);
         x.line(0, 0, 1, 1, 0);
         x.line(0, 6, 4, 3, 0);
         x.line(0, 0, 1, 1, 0);
-        x.change(0, 0, 1, 1, 1, 1);
+        x.change(0, 2, 1, 1, 1, 1);
         x.build(0, 1);
         x.build(0, 0);
         x.setting(0, 0, 0, 0);
@@ -1376,15 +1380,16 @@ public final class PromisesTest {
         x.image(0);
         for (int i = 0; i < 2; i++) {
             x.from(1);
-            due(36, "LINES of the one", x.plain(0, 0, 0, 5), 20);
-            due(36, "a CHANGE of the one", x.plain(1, 0, 0, 5), 1);
-            due(36, "a PROGRAM of the one", x.build(1, 1), 2);
-            due(36, "a LINE of the one", x.change(0, 1, 7, 0, 0, 0), -2);
+            due(36, "SET, END", x.plain(0, 0, 0, 5), 7 + 20);
+            due(36, "GET in SET's stead, END", x.plain(1, 0, 0, 5), 1 + 10 + 20);
+            due(36, "LEAP, taken", x.plain(2, 0, 0, 5), 1 + 5);
+            due(36, "a CHANGE of the PROGRAM", x.build(1, 1), 3);
+            due(36, "no such LINE", x.change(0, 2, 7, 0, 0, 0), -2);
             x.from(0);
-            due(36, "a CHANGE of the other", x.plain(0, 0, 0, 5), 32);
-            due(36, "LINES of the other", x.plain(1, 0, 0, 5), 3);
-            due(36, "a PROGRAM of the other", x.build(1, 1), -3);
-            due(36, "a LINE of the other", x.change(0, 1, 7, 0, 0, 0), 1);
+            due(36, "SET, LEAP not taken, SUM in SET's stead", x.plain(0, 0, 0, 5), 1 + 1 + 30);
+            due(36, "SET, LEAP not taken, SET", x.plain(1, 0, 0, 5), 3);
+            due(36, "a CHANGE of another PROGRAM", x.build(1, 1), -3);
+            due(36, "such a LINE", x.change(0, 2, 7, 0, 0, 0), 1);
         }
     }
 
