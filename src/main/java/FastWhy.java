@@ -204,10 +204,11 @@ public final class FastWhy {
     }
 
     public int difference(int i) {
-        if (isOut(i, MOST_DIFFERENCES)) {
+        if (i < 0) {
             return FAR_BAD;
         }
-        return i < now.sitting.size ? now.sitting.differences[i] : FAR_NONE;
+        // The document tells no greatest number here, so one that is far beyond is not there either: NONE, not BAD.
+        return isOut(i, now.sitting.size) ? FAR_NONE : now.sitting.differences[i];
     }
 
     public int stand() {

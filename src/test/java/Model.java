@@ -324,7 +324,7 @@ public final class Model {
     }
 
     public int difference(int i) {
-        if (!in(i, 0, 15)) return -2000000000;
+        if (i < 0) return -2000000000;
         return i < sitting.size() ? sitting.get(i) : -1000000000;
     }
 

@@ -205,7 +205,7 @@ public final class ModelTest {
             case "plain": return new int[] {builds(), machine(), settings(), ranged(0, 5)};
             case "figure": return new int[] {builds(), machine(), settings(), ranged(0, 200), ranged(0, 3)};
             case "pair": return new int[] {builds(), builds(), machine(), settings(), lot(), ranged(0, 23), to(0, 1)};
-            case "difference": return new int[] {to(-1, 17)};
+            case "difference": return new int[] {lots.nextInt(4) == 0 ? lots.nextInt() : to(-1, 17)};
             case "odds": return new int[] {to(0, 1) + (lots.nextInt(30) == 0 ? 2 : 0)};
             case "look": return new int[] {lots.nextBoolean() ? to(1, 6) : ranged(1, 16)};
             case "sure": return new int[] {lots.nextBoolean() ? to(2, 5) : ranged(2, 1000),

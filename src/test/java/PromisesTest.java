@@ -719,9 +719,27 @@ public final class PromisesTest {
         due(16, "not so many", x.difference(1), FAR_NONE);
         due(16, "not so many", x.difference(15), FAR_NONE);
         due(16, "below", x.difference(-1), FAR_BAD);
-        due(16, "beyond", x.difference(16), FAR_BAD);
+        due(16, "far below", x.difference(Integer.MIN_VALUE), FAR_BAD);
+        farBeyond(x);
         x.forge(0, 5000);
         due(16, "it stays", x.difference(0), 10);
+        for (int i = 1; i < 16; i++) {
+            x.pair(0, 1, 0, 0, 0, 0, false);
+        }
+        due(16, "the last of 16", x.difference(15), 10);
+        farBeyond(x);
+        x.stand();
+        due(16, "none any more", x.difference(15), FAR_NONE);
+        farBeyond(x);
+        farBeyond(new FastWhy());
+        due(16, "below, on a new object", new FastWhy().difference(-1), FAR_BAD);
+    }
+
+    /** THE SITTING has 16 at most, but the document tells no greatest number for i. */
+    private static void farBeyond(FastWhy x) {
+        for (int i : new int[] {16, 17, 200, 777788138, Integer.MAX_VALUE}) {
+            due(16, "not so many", x.difference(i), FAR_NONE);
+        }
     }
 
     private static void stand() {
