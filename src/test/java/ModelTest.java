@@ -62,6 +62,7 @@ public final class ModelTest {
         model = new Model();
         told.clear();
         lay();
+        fill();
         // What empties or goes back is left out of some runs, so that these come to what is FULL.
         boolean[] left = {lots.nextBoolean(), lots.nextBoolean(), lots.nextBoolean()};
         int most = lots.nextInt(4) == 0 ? 13 : LATER.length;
@@ -73,7 +74,7 @@ public final class ModelTest {
             if (name.equals("rules")) {
                 rules();
             } else {
-                call(name, args(name));
+                call(name, wilder(args(name)));
             }
         }
         call("digest");
@@ -117,6 +118,24 @@ public final class ModelTest {
         }
     }
 
+    /** Some runs come to what is FULL of one kind and a little beyond. */
+    private void fill() throws Exception {
+        switch (lots.nextInt(12)) {
+            case 0: again("line", 44, model.count(0)); break;
+            case 1: again("build", 40, 0); break;
+            case 2: again("change", 20, 0); break;
+            case 3: for (int i = 1; i <= 17; i++) if (lots.nextInt(4) > 0) call("look", i); break;
+            case 4: for (int i = 0; i < 43; i++) call("write", sign()); break;
+            case 5: again("setting", 12, 0); break;
+            default: break;
+        }
+    }
+
+    private void again(String name, int times, int program) throws Exception {
+        if (name.equals("line")) call("program");
+        for (int i = 0; i < times; i++) call(name, name.equals("line") ? line(program) : args(name));
+    }
+
     private void loop(int p) throws Exception {
         call("line", p, 0, 1, 1 + lots.nextInt(2), 0);
         call("line", p, 0, 0, lots.nextInt(80), 0);
@@ -141,6 +160,15 @@ public final class ModelTest {
             return off[lots.nextInt(off.length)];
         }
         return lots.nextInt(many);
+    }
+
+    /** Now and then one number is any int at all: no call may fail to answer it. */
+    private int[] wilder(int[] args) {
+        if (args.length > 0 && lots.nextInt(25) == 0) {
+            int[] edges = {Integer.MIN_VALUE, Integer.MIN_VALUE + 1, -1, 0, 1, 31, 32, 63, 64, Integer.MAX_VALUE};
+            args[lots.nextInt(args.length)] = lots.nextBoolean() ? lots.nextInt() : edges[lots.nextInt(edges.length)];
+        }
+        return args;
     }
 
     private int ranged(int low, int high) {
