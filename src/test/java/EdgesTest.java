@@ -42,6 +42,7 @@ public final class EdgesTest {
         rung();
         forged();
         images();
+        counts();
         digests();
         calls();
         System.out.println(checked - wrong + " of " + checked + " edges are as due");
@@ -1578,6 +1579,36 @@ public final class EdgesTest {
         due(36, "it is as full", x.change(0, 0, 7, 0, 0, 0), FULL);
         due(36, "it is as full", x.look(9), FULL);
         due(36, "and as much is BAD", x.look(8), BAD);
+    }
+
+    /** "How many": none, as many as can be, and none again of what can be emptied. */
+    private static void counts() {
+        FastWhy x = Twins.full();
+        int[] most = {6, 10, 24, 8, 200, 0, 16, 8, 40};
+        for (int what = 0; what < most.length; what++) {
+            due(37, "as many as can be: " + what, x.count(what), most[what]);
+        }
+        due(17, "THE SITTING is empty: how many", x.stand(), 16);
+        due(17, "it is empty", x.count(6), 0);
+        due(17, "ODDS of an empty one", x.odds(0), 1);
+        due(17, "LOOKS stay", x.count(7), 8);
+        due(17, "RUNS stay", x.count(4), 200);
+        due(30, "RULES are empty: how many", x.erase(), 40);
+        due(30, "they are empty", x.count(8), 0);
+        due(30, "the first again", x.write('n'), 1);
+        due(30, "one", x.erase(), 1);
+        due(20, "all LOOKS go", x.sure(2, 0), 1);
+        due(20, "all LOOKS go", x.count(7), 0);
+        due(20, "the first again", x.look(1), 1);
+        FastWhy y = loop();
+        built(y, 1000, 0, 0, 0);
+        for (int i = 0; i < 100; i++) {
+            y.pair(0, 0, 0, 0, i, 0, false);
+        }
+        due(37, "VOID ones, as many as can be", y.count(5), 200);
+        due(37, "RUNS", y.count(4), 200);
+        due(37, "no DIFFERENCES", y.count(6), 0);
+        due(15, "RUNS for two are not there", y.pair(0, 0, 0, 0, 0, 0, false), FULL);
     }
 
     /** "of BUILDS PROGRAM, CHANGES" */
