@@ -1252,6 +1252,8 @@ public final class FastWhy {
 
     /** COSTS of a MACHINE fitted to three COUNTS. */
     private static final class Fitting {
+        /** 200 RUNS, each some 10000000 off at most, come nowhere near. */
+        private static final long BEYOND_ANY_SUM = 1L << 40;
         final int[] costs = new int[3];
         long sum;
         private final int[] asked = new int[3];
@@ -1267,7 +1269,7 @@ public final class FastWhy {
             asked[1] = c1;
             asked[2] = c2;
             gatherRuns(store, machine);
-            take(0, 0, 0, farness(0, 0, 0, Long.MAX_VALUE));
+            take(0, 0, 0, BEYOND_ANY_SUM);
             for (int x = 0; x <= MOST_COST; x++) {
                 for (int y = 0; y <= MOST_COST; y++) {
                     for (int z = 0; z <= MOST_COST; z++) {

@@ -7,7 +7,9 @@ import java.nio.file.Files;
 import java.nio.file.Path;
 import java.util.ArrayList;
 import java.util.List;
+import java.util.Map;
 import java.util.Set;
+import java.util.TreeMap;
 import java.util.TreeSet;
 import java.util.regex.Matcher;
 import java.util.regex.Pattern;
@@ -25,7 +27,16 @@ public final class LanguageTest {
         "long fit(int,int,int,int,int)", "long foretell(int,int,int,int,int,int,int)", "int seek(int,int,int,int)",
         "int write(int)", "int erase()", "int fault()", "int rung(int,int,int)", "int forge(int,int)", "int check()",
         "int image(int)", "int from(int)", "int count(int)", "long digest()"};
+    /** What is called of the library; LANGUAGE.md lists more that may be put here when it is needed. */
+    private static final Set<String> LIBRARY = Set.of("java.lang.Object.<init>", "java.lang.Integer.bitCount",
+            "java.lang.Math.abs", "java.lang.Math.max", "java.lang.Math.min", "java.lang.String.charAt",
+            "java.lang.String.length", "java.lang.System.arraycopy", "java.util.Arrays.fill");
+    /** Of the library: no constant (javac leaves no trace of Long.MAX_VALUE), and no other class. */
+    private static final Set<String> LIBRARY_WORDS = Set.of("Integer.bitCount", "Math.abs", "Math.max", "Math.min",
+            "System.arraycopy", "Arrays.fill");
     private static final int MOST_LINES_OF_A_METHOD = 60;
+    private static final int MOST_DEEP = 8;
+    private static final int MOST_OPEN_CALLS = 300;
     private static int wrong;
 
     private static void due(String rule, boolean holds) {
@@ -40,6 +51,7 @@ public final class LanguageTest {
         face();
         classes();
         words(text);
+        compiled();
         System.out.println(wrong == 0 ? "the rules are kept" : wrong + " rules are not kept");
         if (wrong != 0) {
             System.exit(1);
@@ -99,6 +111,7 @@ public final class LanguageTest {
             for (Field f : one.getDeclaredFields()) {
                 fields += Modifier.isStatic(f.getModifiers()) ? 0 : 1;
                 due("5: " + f, !Modifier.isStatic(f.getModifiers()) || Modifier.isFinal(f.getModifiers()));
+                due("3: the type of " + f, isType(f.getType()));
             }
             due("11: some twenty fields of " + one.getName(), fields <= 20);
             for (Method m : one.getDeclaredMethods()) {
@@ -108,6 +121,12 @@ public final class LanguageTest {
                 parameters(c, c.getParameterCount());
             }
         }
+    }
+
+    /** Numbers, truths, rows of these, texts, own classes and rows of those. */
+    private static boolean isType(Class<?> type) {
+        Class<?> bare = type.isArray() ? type.getComponentType() : type;
+        return bare.isPrimitive() || type == String.class || bare.getEnclosingClass() == FastWhy.class;
     }
 
     private static void parameters(Member member, int many) {
@@ -136,8 +155,71 @@ public final class LanguageTest {
                 due("3: a sign beyond 126 at " + i, false);
             }
         }
+        Matcher dots = Pattern.compile("(?<![\\w.])([A-Z]\\w*[a-z]\\w*)\\.\\w+").matcher(bare);
+        while (dots.find()) {
+            due("4: " + dots.group(), LIBRARY_WORDS.contains(dots.group()) || dots.group().equals("java.util.Arrays"));
+        }
         methods(bare);
         rows(bare);
+    }
+
+    /** What javac has made of it: calls of the library, exceptions, how deep calls go. */
+    private static void compiled() throws Exception {
+        Map<String, Set<String>> calls = new TreeMap<>();
+        List<Class<?>> all = new ArrayList<>(List.of(FastWhy.class.getDeclaredClasses()));
+        all.add(FastWhy.class);
+        for (Class<?> one : all) {
+            Compiled read = new Compiled(one);
+            calls.putAll(read.calls);
+            due("4: fields of the library in " + one.getName() + ": " + read.fields, read.fields.isEmpty());
+            due("6: no throw, no catch in " + one.getName(), !read.throwsOrCatches);
+            due("2, 10: nothing that is joined as it runs in " + one.getName(), !read.dynamic);
+        }
+        due("all methods were read", calls.containsKey("FastWhy.digest") && calls.get("FastWhy.digest").size() > 1);
+        for (Map.Entry<String, Set<String>> method : calls.entrySet()) {
+            for (String called : method.getValue()) {
+                due("4: " + method.getKey() + " calls " + called, calls.containsKey(called) || LIBRARY.contains(called));
+            }
+        }
+        Set<String> again = inCircles(calls);
+        for (String method : calls.keySet()) {
+            int deep = deep(method, calls, again);
+            due("11: eight deep: " + method + " " + deep, deep <= MOST_DEEP);
+        }
+        for (String method : again) {
+            due("8: a recursion is the reading of RULES: " + method, method.startsWith("FastWhy$Reader."));
+        }
+        // one circle for each ( that may be open, one with none open, and what is ahead of and behind them
+        due("8: calls open at once", again.size() * 9 + 2 * MOST_DEEP < MOST_OPEN_CALLS);
+    }
+
+    /** Those that may come to themselves again. */
+    private static Set<String> inCircles(Map<String, Set<String>> calls) {
+        Set<String> all = new TreeSet<>();
+        for (String method : calls.keySet()) {
+            Set<String> seen = new TreeSet<>();
+            List<String> next = new ArrayList<>(calls.get(method));
+            while (!next.isEmpty()) {
+                String one = next.remove(next.size() - 1);
+                if (seen.add(one)) {
+                    next.addAll(calls.getOrDefault(one, Set.of()));
+                }
+            }
+            if (seen.contains(method)) {
+                all.add(method);
+            }
+        }
+        return all;
+    }
+
+    private static int deep(String method, Map<String, Set<String>> calls, Set<String> again) {
+        int most = 0;
+        for (String called : calls.getOrDefault(method, Set.of())) {
+            if (!again.contains(called)) {
+                most = Math.max(most, deep(called, calls, again));
+            }
+        }
+        return most + 1;
     }
 
     private static void methods(String bare) {
